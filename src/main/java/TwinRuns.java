@@ -534,8 +534,20 @@ public final class TwinRuns {
             return notLess >> 1 | notGreater | (notLess & notGreater) >> 2;
         }
 
-        boolean haveShape(int one, int two, int bits) {
-            return bits == 0 || (shapeOf(one, two) & bits) == bits;
+        /** What VARIABLES of a second MEMORY can not be beside this first one in a SHAPE, as in hot. */
+        int deniedBy(int bits, int memory) {
+            int denied = 0;
+            for (int v = 0; v < 4; v++) {
+                int value = valueOf(memory, v);
+                int below = (1 << value) - 1;
+                int above = 15 & ~(below | 1 << value);
+                int three = bits >> (3 * v);
+                int here = (three & 1) == 0 ? 0 : below | above;
+                here |= (three & 2) == 0 ? 0 : above;
+                here |= (three & 4) == 0 ? 0 : below;
+                denied |= here << (4 * v);
+            }
+            return denied;
         }
     }
 
@@ -1047,6 +1059,10 @@ public final class TwinRuns {
         /** STATES behind one move from each MEMORY at a PLACE. */
         private final int[] firstMoved;
         private final int[] secondMoved;
+        /** LINES at which the second one can stand behind that move, as bits. */
+        private int secondLines;
+        /** What a told SHAPE denies to the second one behind that move, by the LINE at which it stands. */
+        private final int[] deniedNext;
 
         Walker(Forms forms) {
             this.forms = forms;
@@ -1058,6 +1074,8 @@ public final class TwinRuns {
             mostMoves = 0;
             firstMoved = new int[MEMORIES];
             secondMoved = new int[MEMORIES];
+            secondLines = 0;
+            deniedNext = new int[SIDE];
             Arrays.fill(toldShapes, ALL_BITS);
             // where one has ENDED no WAIT can be told: the other one goes alone
             for (int line = 0; line < LINES; line++) {
@@ -1131,12 +1149,10 @@ public final class TwinRuns {
 
         private boolean isKept(Program p, Program q, int place) {
             moveAll(p, q, place);
-            int bits = toldShapes[place];
             for (int one = 0; one < MEMORIES; one++) {
-                for (int two = 0; two < MEMORIES; two++) {
-                    if (forms.haveShape(one, two, bits) && !isNextKept(firstMoved[one], secondMoved[two])) {
-                        return false;
-                    }
+                boolean asks = askNext(firstMoved[one]);
+                if (asks && !areKept(forms.deniedBy(toldShapes[place], one))) {
+                    return false;
                 }
             }
             return true;
@@ -1146,15 +1162,36 @@ public final class TwinRuns {
             int one = place / SIDE;
             int two = place % SIDE;
             int how = waits[place];
+            secondLines = 0;
             for (int memory = 0; memory < MEMORIES; memory++) {
                 firstMoved[memory] = how == SECOND ? one * MEMORIES + memory : p.steppedState(one, memory);
                 secondMoved[memory] = how == FIRST ? two * MEMORIES + memory : q.steppedState(two, memory);
+                secondLines |= 1 << (secondMoved[memory] / MEMORIES);
             }
         }
 
-        private boolean isNextKept(int one, int two) {
-            int next = one / MEMORIES * SIDE + two / MEMORIES;
-            return forms.haveShape(one, two, toldShapes[next]);
+        /** Puts down what the PLACES that can be next deny beside this first one; whether it is anything. */
+        private boolean askNext(int state) {
+            int any = 0;
+            for (int line = 0; line < SIDE; line++) {
+                if ((secondLines >> line & 1) != 0) {
+                    int bits = toldShapes[state / MEMORIES * SIDE + line];
+                    deniedNext[line] = forms.deniedBy(bits, state % MEMORIES);
+                    any |= deniedNext[line];
+                }
+            }
+            return any != 0;
+        }
+
+        private boolean areKept(int denied) {
+            for (int two = 0; two < MEMORIES; two++) {
+                int next = secondMoved[two];
+                boolean there = (forms.hot[two] & denied) == 0;
+                if (there && (forms.hot[next % MEMORIES] & deniedNext[next / MEMORIES]) != 0) {
+                    return false;
+                }
+            }
+            return true;
         }
     }
 
