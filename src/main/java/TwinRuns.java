@@ -3,7 +3,7 @@ import java.util.Arrays;
 /**
  * Small programs whose every start is run, and what can be said of two of their runs at once.
  *
- * A STATE inside is one number: the LINE at which a run stands times 256, and its MEMORY.
+ * A state inside is one number: the LINE at which a run stands times 256, and its MEMORY.
  */
 public final class TwinRuns {
     public static final int UNKNOWN = -1, OUTSIDE = -2, STATE = -3, FULL = -4, NO = -5, NONE = -6;
@@ -573,7 +573,7 @@ public final class TwinRuns {
         /** A RUN counts as made if it bears the present age. */
         private int age;
         private final int[] madeAt;
-        /** STATES of each RUN, ahead of each STEP and at last. */
+        /** The states of each RUN, ahead of each STEP and at last. */
         final int[] states;
         final int[] endOf;
         final int[] lastOf;
@@ -621,7 +621,7 @@ public final class TwinRuns {
             return (line >= size ? GONE : line) * MEMORIES + memory;
         }
 
-        /** The STATE behind one STEP; REFUSAL beside it if the act was REFUSED. An ended one stays. */
+        /** The state behind one STEP; REFUSAL beside it if the act was REFUSED. An ended one stays. */
         int stepped(int line, int memory) {
             if (line < 0 || line >= size || line >= LINES) {
                 return GONE * MEMORIES + memory;
@@ -692,7 +692,7 @@ public final class TwinRuns {
             madeAt[start] = age;
         }
 
-        /** SHOWN, by fours behind a 1, if these LINES were SILENT; the STATES of that RUN must be made. */
+        /** SHOWN, by fours behind a 1, if these LINES were SILENT; the states of that RUN must be made. */
         long shownUnder(int start, int quiet) {
             long shown = 1L;
             int row = start * ROW;
@@ -1056,7 +1056,7 @@ public final class TwinRuns {
         final int[] shapes;
         private final int[] stood;
         int mostMoves;
-        /** STATES behind one move from each MEMORY at a PLACE. */
+        /** States behind one move from each MEMORY at a PLACE. */
         private final int[] firstMoved;
         private final int[] secondMoved;
         /** LINES at which the second one can stand behind that move, as bits. */

@@ -344,7 +344,12 @@ public final class PromiseTest {
         due("shown and nothing", x.pair(o, 1, mem(2, 0, 0, 1), 1, mem(0, 0, 0, 0), 1), 1);
         due("steps 2 and 3", x.pair(t, 1, mem(0, 0, 1, 1), 1, mem(0, 0, 1, 0), 1), 1);
         due("steps 2 and 2", x.pair(t, 1, mem(0, 0, 1, 2), 1, mem(0, 0, 1, 1), 1), 0);
-        due("saying", x.pair(4, 0, 0, 0, 0, 0), U);
+        int both = saying(x, "a=a:e&b=b&t&c=c");
+        due("alike", x.pair(both, 2, mem(0, 1, 2, 0), 3, mem(0, 1, 2, 3), 1), 0);
+        due("b behind e", x.pair(both, 2, mem(0, 1, 2, 0), 3, mem(0, 2, 2, 3), 1), 1);
+        due("c behind t", x.pair(both, 2, mem(0, 1, 2, 0), 3, mem(0, 1, 3, 3), 1), 1);
+        due("t between them", x.pair(both, 2, mem(0, 1, 2, 0), 1, mem(0, 1, 2, 3), 1), 1);
+        due("saying", x.pair(5, 0, 0, 0, 0, 0), U);
         due("saying", x.pair(-1, 0, 0, 0, 0, 0), U);
         due("p", x.pair(0, 4, 0, 0, 0, 0), U);
         due("q", x.pair(0, 0, 0, -1, 0, 0), U);
@@ -353,6 +358,33 @@ public final class PromiseTest {
         due("other", x.pair(0, 0, 0, 0, -1, 0), O);
         due("what", x.pair(0, 0, 0, 0, 0, 2), O);
         due("what", x.pair(0, 0, 0, 0, 0, -1), O);
+    }
+
+    /** Each sign with all letters and values, ahead of the : and behind it. */
+    private static void promise11PairSigns() {
+        for (int sign = 0; sign < 4; sign++) {
+            for (int letters = 0; letters < 16; letters++) {
+                int l = letters / 4;
+                int r = letters % 4;
+                String test = "" + "abcd".charAt(l) + "=<>#".charAt(sign) + "abcd".charAt(r);
+                TwinRuns x = new TwinRuns();
+                saying(x, test + ":e");
+                saying(x, "a<a:" + test);
+                for (int values = 0; values < 16; values++) {
+                    int one = values / 4;
+                    int two = values % 4;
+                    int compared = Integer.compare(one, two);
+                    boolean so = sign == 0 ? compared == 0 : sign == 1 ? compared < 0 : sign == 2 ? compared > 0 : compared != 0;
+                    due(test, x.pair(0, 0, one << (6 - 2 * l), 1, two << (6 - 2 * r), 0), so ? 1 : 0);
+                    // two programs that set what is compared behind
+                    x.clear(2);
+                    x.clear(3);
+                    x.line(2, SET, l, one, 0);
+                    x.line(3, SET, r, two, 0);
+                    due("behind " + test, x.pair(1, 2, 0, 3, mem(1, 0, 0, 0), 1), so ? 0 : 1);
+                }
+            }
+        }
     }
 
     private static void promise12Holds() {
@@ -391,6 +423,82 @@ public final class PromiseTest {
         due("q", x.holds(0, 0, -1, 9), U);
         due("what", x.holds(0, 0, 0, 4), O);
         due("what", x.holds(0, 0, 0, -1), O);
+    }
+
+    private static void promise12HoldsLone() {
+        TwinRuns x = new TwinRuns();
+        // the second one ends with a as 1 or 0; the first one leaves it
+        lines(x, 0, LEAP, 3, 3, 0, SET, 0, 1, 0, END, 0, 0, 0, SET, 0, 0, 0);
+        int b = saying(x, "b=b:a=a");
+        due("no end is like a of 2", x.holds(b, 1, 0, 3), mem(2, 0, 0, 0));
+        due("broken ones are ahead of it", x.holds(b, 1, 0, 1), 0);
+        due("so many", x.holds(b, 1, 0, 0), 64 * (16 + 48 + 64 + 64));
+        due("the other way each has one", x.holds(b, 0, 1, 3), NONE);
+        int c = saying(x, "d=d&b=b:a=a");
+        due("with d alike 0 has none", x.holds(c, 1, 0, 3), 0);
+        x.change(0, 1, COPY, 0, 1, 0);
+        due("b of 1 is not like a of 0", x.holds(c, 1, 0, 3), mem(0, 1, 0, 0));
+    }
+
+    /** What was found once is found anew when LINES, SILENT ones or WAITS are told. */
+    private static void promise12HoldsAnew() {
+        TwinRuns x = new TwinRuns();
+        int o = saying(x, "a=a:o");
+        due("nothing is shown", x.holds(o, 0, 0, 0), 0);
+        due("nothing to walk", x.walk(o, 0, 0, 0), 1);
+        due("nothing to do", x.orders(0, 0, 5, 1), 5);
+        x.line(0, SHOW, 1, 0, 0);
+        due("line", x.holds(o, 0, 0, 0), 256 * 48);
+        due("line", x.walk(o, 0, 0, 0), 2);
+        x.line(0, SET, 3, 3, 0);
+        due("line", x.orders(0, 0, 5, 1), 7);
+        x.change(0, 0, SHOW, 0, 0, 0);
+        due("change", x.holds(o, 0, 0, 0), 0);
+        x.change(0, 1, SHOW, 1, 0, 0);
+        due("change", x.orders(0, 0, 5, 1), 5);
+        due("change", x.holds(o, 0, 0, 0), 256 * 48);
+        x.silent(0, 2);
+        due("silent", x.holds(o, 0, 0, 0), 0);
+        due("two and the end", x.walk(o, 0, 0, 0), 3);
+        x.silent(0, 0);
+        due("silent", x.holds(o, 0, 0, 0), 256 * 48);
+        x.clear(0);
+        due("clear", x.holds(o, 0, 0, 0), 0);
+        due("clear", x.walk(o, 0, 0, 0), 1);
+        lines(x, 0, SET, 0, 1, 0);
+        lines(x, 1, SET, 0, 2, 0, SHOW, 0, 0, 0);
+        due("one after the other", x.orders(0, 1, 0, 0), 2);
+        x.clear(0);
+        due("clear", x.orders(0, 1, 0, 0), 1);
+    }
+
+    /** Answers for one choice of SAYING and PROGRAMS are not those for another one. */
+    private static void promise12HoldsChoices() {
+        TwinRuns x = new TwinRuns();
+        for (int p = 0; p < 4; p++) {
+            for (int i = 0; i < p; i++) {
+                x.line(p, LEAP, 3, 12, 0);
+            }
+        }
+        int[] saying = {saying(x, "d=d:t"), saying(x, "d<d:t"), saying(x, "c=c:t")};
+        int[][] moves = new int[16][3];
+        for (int round = 0; round < 2; round++) {
+            for (int pq = 0; pq < 16; pq++) {
+                int p = pq / 4;
+                int q = pq % 4;
+                moves[pq][0] = Math.max(p, q);
+                // d above that of another one is not 0: it leaps at once
+                moves[pq][1] = Math.max(p, Math.min(q, 1));
+                moves[pq][2] = Math.max(p, q);
+                for (int s = 0; s < 3; s++) {
+                    due("walk " + s + " " + p + " " + q, x.walk(saying[s], p, q, 2), moves[pq][s]);
+                }
+                boolean same = Math.min(p, 1) == Math.min(q, 1);
+                int meant = 64 * 64;
+                int broken = p == q ? 0 : same ? meant : 4 * meant;
+                due("d=d " + p + " " + q, x.holds(saying[0], p, q, 0), broken);
+            }
+        }
     }
 
     private static void promise13Part() {
@@ -465,6 +573,21 @@ public final class PromiseTest {
         due("q", x.walk(0, 0, 4, 9), U);
         due("what", x.walk(0, 0, 0, 3), O);
         due("what", x.walk(0, 0, 0, -1), O);
+    }
+
+    private static void promise15WalkOne() {
+        TwinRuns x = new TwinRuns();
+        // START 0 alone comes to LINE 4, START 255 alone comes there in the other one
+        lines(x, 0, LEAP, 0, 12, 0, LEAP, 1, 12, 0, LEAP, 2, 12, 0, LEAP, 3, 12, 0, COPY, 0, 0, 0);
+        int all = saying(x, "a=a&b=b&c=c&d=d:e");
+        due("0 to 4 and the end", x.walk(all, 0, 0, 0), 6);
+        due("five moves", x.walk(all, 0, 0, 2), 5);
+        due("0 and 0 stand there", x.shape(all, 0, 0, 4, 4), 4095);
+        x.tell(4, 4, 0);
+        due("and what is told there counts", x.fails(all, 0, 0), 404);
+        // LINE 0 is stood at alone by the first one, LINE 12 by the other
+        due("against nothing", x.walk(all, 0, 1, 1), 5);
+        due("against nothing", x.walk(all, 1, 0, 1), 5);
     }
 
     private static void promise16Shape() {
@@ -603,10 +726,10 @@ public final class PromiseTest {
 
     private static void promise19SoLeastAndState() {
         TwinRuns x = new TwinRuns();
-        // either one of the two SHOWS told away leaves one that is the same on both ways
+        // LINE 2 shows by d of 0 alone, LINE 4 always
         lines(x, 0, LEAP, 3, 3, 0, SET, 0, 1, 0, SHOW, 0, 0, 0, SET, 0, 1, 0, SHOW, 0, 0, 0);
         int s = saying(x, "a=a:o");
-        due("the least of two", x.so(s, 0, 0), 4);
+        due("that one", x.so(s, 0, 0), 4);
         for (int i = 5; i < 10; i++) {
             x.line(0, SHOW, 0, 0, 0);
         }
@@ -618,6 +741,21 @@ public final class PromiseTest {
         due("a silent LINE of another act does not help", x.so(s, 0, 0), S);
         int no = saying(x, "a=a:b=b");
         due("STATE ahead of NO", x.so(no, 0, 0), S);
+    }
+
+    private static void promise19SoFewest() {
+        TwinRuns x = new TwinRuns();
+        // with d 0 it shows b, b, a; else a, b, b: without LINE 4, or without both 1 and 2, they are alike
+        lines(x, 0, LEAP, 3, 4, 0, SHOW, 1, 0, 0, SHOW, 1, 0, 0, LEAP, 3, 12, 0, SHOW, 0, 0, 0, LEAP, 3, 1, 0);
+        int s = saying(x, "a=a&b=b:o");
+        due("one LINE is fewer than two lesser ones", x.so(s, 0, 0), 16);
+        due("one", x.so(s, 0, 1), 1);
+        // with d 0 it shows b, a; else a, b: either LINE will do
+        lines(x, 1, LEAP, 3, 3, 0, SHOW, 1, 0, 0, LEAP, 3, 12, 0, SHOW, 0, 0, 0, LEAP, 3, 1, 0);
+        due("the least of two", x.so(s, 1, 0), 2);
+        due("one", x.so(s, 1, 1), 1);
+        int first = saying(x, "a<a&b>a&b<b:o");
+        due("no two are alike in a and b: all go", x.so(first, 0, 1), 3);
     }
 
     private static void promise20Fit() {
@@ -728,6 +866,8 @@ public final class PromiseTest {
         lines(x, 3, SET, 3, 0, 0);
         due("the other ends it", x.orders(2, 3, 1, 0), 1);
         due("as 0", x.orders(2, 3, 1, 1), 0);
+        due("0 it is", x.orders(2, 3, 1, 10), 1);
+        due("255 it is not", x.orders(2, 3, 1, 265), 0);
         due("nobody ends it", x.orders(2, 2, 1, 0), 0);
         due("none", x.orders(2, 2, 1, 1), NONE);
         due("not so", x.orders(2, 2, 1, 11), 0);
@@ -801,15 +941,15 @@ public final class PromiseTest {
         at = "promise 8"; promise8Wipe();
         at = "promise 9"; promise9Fault();
         at = "promise 10"; promise10Saying();
-        at = "promise 11"; promise11Pair();
-        at = "promise 12"; promise12Holds();
+        at = "promise 11"; promise11Pair(); promise11PairSigns();
+        at = "promise 12"; promise12Holds(); promise12HoldsLone(); promise12HoldsAnew(); promise12HoldsChoices();
         at = "promise 13"; promise13Part();
         at = "promise 14"; promise14Wait();
-        at = "promise 15"; promise15Walk();
+        at = "promise 15"; promise15Walk(); promise15WalkOne();
         at = "promise 16"; promise16Shape();
         at = "promise 17"; promise17Tell();
         at = "promise 18"; promise18Fails(); promise18FailsRefused();
-        at = "promise 19"; promise19So(); promise19SoLeastAndState();
+        at = "promise 19"; promise19So(); promise19SoLeastAndState(); promise19SoFewest();
         at = "promise 20"; promise20Fit();
         at = "promise 21"; promise21Far();
         at = "promise 22"; promise22Changed();
