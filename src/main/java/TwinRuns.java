@@ -321,12 +321,12 @@ public final class TwinRuns {
             return OUTSIDE;
         }
         Program told = programs[program];
-        int asked = digitsOf(set);
+        int digits = digitsOf(set);
         int count = 0;
         int first = NONE;
         told.trace(start);
         for (int other = 0; other < MEMORIES; other++) {
-            if (((other ^ start) & asked) != 0) {
+            if (((other ^ start) & digits) != 0) {
                 continue;
             }
             told.trace(other);

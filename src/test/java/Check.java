@@ -26,6 +26,11 @@ final class Check {
         int answer(TwinRuns x);
     }
 
+    /** A call about a number, a SAYING or a MEMORY, and two PROGRAMS. */
+    interface Choice {
+        int answer(TwinRuns x, int n, int p, int q);
+    }
+
     interface Maker {
         TwinRuns make();
     }
@@ -136,19 +141,23 @@ final class Check {
         unchanged(what, x);
     }
 
-    /** What is asked just before makes no difference: any two of these calls, one behind the other. */
-    static void anyOrder(Maker maker, List<Ask> asks) {
-        int[] alone = new int[asks.size()];
+    /** What is asked just before makes no difference: any two choices of numbers and PROGRAMS, one behind the other. */
+    static void anyOrder(int numbers, Maker maker, Choice choice) {
+        int[] alone = new int[16 * numbers];
         for (int i = 0; i < alone.length; i++) {
-            alone[i] = asks.get(i).answer(maker.make());
+            alone[i] = choose(choice, maker.make(), i);
         }
         for (int i = 0; i < alone.length; i++) {
             TwinRuns x = maker.make();
             for (int j = 0; j < alone.length; j++) {
-                due("call " + i, asks.get(i).answer(x), alone[i]);
-                due("call " + j + " behind call " + i, asks.get(j).answer(x), alone[j]);
+                due("choice " + i, choose(choice, x, i), alone[i]);
+                due("choice " + j + " behind " + i, choose(choice, x, j), alone[j]);
             }
         }
+    }
+
+    private static int choose(Choice choice, TwinRuns x, int i) {
+        return choice.answer(x, i / 16, i / 4 % 4, i % 4);
     }
 
     private static void unchanged(String what, TwinRuns x) {

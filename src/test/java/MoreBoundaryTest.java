@@ -1,6 +1,3 @@
-import java.util.ArrayList;
-import java.util.List;
-
 /** The boundary cases of promises 19 to 24, a test for each sentence that names one. */
 public final class MoreBoundaryTest {
     private static final int UNKNOWN = Check.UNKNOWN, OUTSIDE = Check.OUTSIDE, STATE = Check.STATE, NO = Check.NO;
@@ -556,14 +553,7 @@ public final class MoreBoundaryTest {
     }
 
     private static void oneMeetingBehindAnother() {
-        List<Check.Ask> asks = new ArrayList<>();
-        for (int choice = 0; choice < 48; choice++) {
-            int memory = choice / 16;
-            int p = choice / 4 % 4;
-            int q = choice % 4;
-            asks.add(x -> x.orders(p, q, memory, 0) * 1000 + x.orders(p, q, memory, 1));
-        }
-        Check.anyOrder(MoreBoundaryTest::fourPrograms, asks);
+        Check.anyOrder(3, MoreBoundaryTest::fourPrograms, (x, n, p, q) -> x.orders(p, q, n, 0) * 1000 + x.orders(p, q, n, 1));
         Check.due("doubled twice", fourPrograms().orders(2, 2, 1, 1), 0);
         Check.due("2 by SUM and SET, or 1 by SET behind SUM", fourPrograms().orders(1, 2, 0, 0), 2);
     }

@@ -1,6 +1,3 @@
-import java.util.ArrayList;
-import java.util.List;
-
 /** The boundary cases of promises 7 to 13, a test for each sentence that names one. */
 public final class SayingsBoundaryTest {
     private static final int UNKNOWN = Check.UNKNOWN, OUTSIDE = Check.OUTSIDE, FULL = Check.FULL, NO = Check.NO;
@@ -494,14 +491,7 @@ public final class SayingsBoundaryTest {
     }
 
     private static void oneQuestionBehindAnother() {
-        List<Check.Ask> asks = new ArrayList<>();
-        for (int choice = 0; choice < 32; choice++) {
-            int s = choice / 16;
-            int p = choice / 4 % 4;
-            int q = choice % 4;
-            asks.add(x -> x.holds(s, p, q, 0));
-        }
-        Check.anyOrder(SayingsBoundaryTest::fourPrograms, asks);
+        Check.anyOrder(2, SayingsBoundaryTest::fourPrograms, (x, n, p, q) -> x.holds(n, p, q, 0));
         Check.due("a stays", fourPrograms().holds(0, 0, 0, 0), 0);
         Check.due("a is 2", fourPrograms().holds(0, 2, 2, 0), 0);
         Check.due("a is 1, and 2", fourPrograms().holds(0, 1, 2, 0), 16384);

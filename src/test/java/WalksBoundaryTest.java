@@ -1,6 +1,3 @@
-import java.util.ArrayList;
-import java.util.List;
-
 /** The boundary cases of promises 14 to 18, a test for each sentence that names one. */
 public final class WalksBoundaryTest {
     private static final int UNKNOWN = Check.UNKNOWN, OUTSIDE = Check.OUTSIDE, NONE = Check.NONE;
@@ -231,14 +228,7 @@ public final class WalksBoundaryTest {
     }
 
     private static void oneWalkBehindAnother() {
-        List<Check.Ask> asks = new ArrayList<>();
-        for (int choice = 0; choice < 32; choice++) {
-            int s = choice / 16;
-            int p = choice / 4 % 4;
-            int q = choice % 4;
-            asks.add(x -> x.walk(s, p, q, 0) * 100 + x.walk(s, p, q, 2));
-        }
-        Check.anyOrder(WalksBoundaryTest::fourPrograms, asks);
+        Check.anyOrder(2, WalksBoundaryTest::fourPrograms, (x, n, p, q) -> x.walk(n, p, q, 0) * 100 + x.walk(n, p, q, 2));
         Check.due("12 12", fourPrograms().walk(0, 0, 0, 0), 1);
         Check.due("0 0, 1 1, 12 12", fourPrograms().walk(0, 2, 2, 0), 3);
         Check.due("by d above another's: 0 0, 12 1, 12 12", fourPrograms().walk(1, 2, 2, 0), 3);
