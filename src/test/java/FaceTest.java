@@ -54,6 +54,7 @@ public final class FaceTest {
             }
         }
         due("constants", String.join(" ", constants), "FULL NO NONE OUTSIDE STATE UNKNOWN");
+        lookAtSizes(TwinRuns.class);
         lookInside();
     }
 
@@ -63,11 +64,36 @@ public final class FaceTest {
         for (Class<?> one : inside) {
             due(one + " is static", Modifier.isStatic(one.getModifiers()), true);
             due(one + " is not public", Modifier.isPublic(one.getModifiers()), false);
+            lookAtSizes(one);
             for (Field field : one.getDeclaredFields()) {
                 boolean fixed = !Modifier.isStatic(field.getModifiers()) || Modifier.isFinal(field.getModifiers());
                 due(field + " is no static state", fixed, true);
             }
         }
+    }
+
+    /** Rule 11: parameters and fields. */
+    private static void lookAtSizes(Class<?> one) {
+        for (Method method : one.getDeclaredMethods()) {
+            due(method + " takes seven at most", method.getParameterCount() <= 7, true);
+        }
+        int fields = 0;
+        for (Field field : one.getDeclaredFields()) {
+            fields += Modifier.isStatic(field.getModifiers()) ? 0 : 1;
+        }
+        due(one + " has twenty fields at most", fields <= 20, true);
+    }
+
+    /** Rule 11: a method ends where its own indentation comes back. */
+    private static void lookAtLengths(String text) {
+        Matcher method = Pattern.compile("(?ms)^( {4}| {8})(?! )[^\\n;=]*\\) \\{\\n(.*?)^\\1\\}$").matcher(text);
+        int methods = 0;
+        while (method.find()) {
+            methods++;
+            String head = method.group().lines().findFirst().orElse("").strip();
+            due(head + " stays short", method.group().lines().count() <= 60, true);
+        }
+        due("methods were found", methods > 80, true);
     }
 
     private static void lookAtText(String text) {
@@ -83,7 +109,9 @@ public final class FaceTest {
 
     public static void main(String[] args) throws IOException {
         lookAtMembers();
-        lookAtText(Files.readString(Path.of("src/main/java/TwinRuns.java")));
+        String text = Files.readString(Path.of("src/main/java/TwinRuns.java"));
+        lookAtText(text);
+        lookAtLengths(text);
         System.out.println("FaceTest: " + wrong + " wrong");
         if (wrong != 0) {
             System.exit(1);
